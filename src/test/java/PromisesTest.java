@@ -43,6 +43,7 @@ public final class PromisesTest {
         exactShare();
         digest();
         throwingChangesNothing();
+        aFullMachine();
         CHECK.end();
     }
 
@@ -625,6 +626,7 @@ public final class PromisesTest {
         CHECK.due("below(39)", x.below(39), 30);
         CHECK.due("below(169)", x.below(169), 150);
         CHECK.due("below(2000)", x.below(2000), 170);
+        CHECK.due("below(1)", withTubes(new int[] {1}, new int[] {1}).below(1), 1);
         CHECK.due("below(77), no kinds", new CoinMechanism().below(77), 0);
         CHECK.due("below(2000)", withTubes(new int[] {500}, new int[] {5}).below(2000), 2000);
         CHECK.dueThrow("below(-1)", ARGUMENT, () -> x.below(-1));
@@ -666,6 +668,10 @@ public final class PromisesTest {
         CHECK.due("unit()", x.unit(), 5);
         x.addKind(499, 0);
         CHECK.due("unit()", x.unit(), 1);
+        CoinMechanism two = new CoinMechanism();
+        two.addKind(6, 0);
+        two.addKind(4, 0);
+        CHECK.due("unit()", two.unit(), 2);
         CoinMechanism one = new CoinMechanism();
         one.addKind(1, 0);
         CHECK.due("unit()", one.unit(), 1);
@@ -783,13 +789,16 @@ public final class PromisesTest {
         x.addProduct(2000, 1);
         insertAll(x, 0, 0, 0, 0);
         x.buy(0);
-        insertAll(x, 0, 0);
+        insertAll(x, 0);
+        x.accept(1, true);
+        insertAll(x, 1, 0);
+        x.accept(1, false);
         x.setLimit(77);
         CHECK.due("digest()", x.digest(), digestOf(
             2, 10, 1, 3, 0, 1, 5, 8, 0, 1, 0,
             77, 2, 35, 4, 2000, 1,
-            2, 0, 0,
-            60, 0, 5, 0, 45, 0, 0, 35, 1, 0));
+            3, 0, 1, 0,
+            65, 0, 5, 0, 45, 0, 0, 35, 1, 0));
     }
 
     private static long digestOf(long... numbers) {
@@ -819,5 +828,42 @@ public final class PromisesTest {
             CHECK.due("call " + i + " throws", Check.outcome(calls[i]).startsWith("throws "), true);
             CHECK.due("digest() after call " + i, x.digest(), before);
         }
+    }
+
+    // ---- all limits at once: 8 kinds, 10 products, full tubes, 12 coins in the escrow
+
+    private static void aFullMachine() {
+        CHECK.at("a full machine");
+        CoinMechanism x = new CoinMechanism();
+        for (int kind = 0; kind < 8; kind++) {
+            x.addKind(80 - 10 * kind, 60);
+            x.fill(kind, 60);
+        }
+        for (int product = 0; product < 10; product++) {
+            x.addProduct(100 + 10 * product, 99);
+        }
+        insertAll(x, 0, 1, 2, 3, 4, 5, 6, 7, 7, 7, 7, 7);
+        CHECK.due("credit()", x.credit(), 400);
+        CHECK.due("unit()", x.unit(), 10);
+        CHECK.due("lamp()", x.lamp(), false);
+        CHECK.due("gaps(2000)", x.gaps(2000), 0);
+        CHECK.due("below(2000)", x.below(2000), 2000);
+        dueParts(x, 150, 1, 1, 0, 0, 0, 0, 0, 0);
+        CHECK.due("buy(9)", x.buy(9), 0);
+        dueCoins(x, 2, 1, 1, 1, 1, 1, 1, 1, 5);
+        dueCoins(x, 3, 2, 0, 0, 1, 0, 0, 0, 0);
+        dueCoins(x, 1, 58, 60, 60, 59, 60, 60, 60, 60);
+        CHECK.due("refund()", x.refund(), true);
+        dueCoins(x, 3, 2, 0, 0, 0, 0, 1, 0, 0);
+        CHECK.due("emptyBox()", x.emptyBox(), 400);
+        insertAll(x, 7);
+        CHECK.due("cancel()", x.cancel(), 10);
+        dueAudit(x, 410, 10, 210, 190, 21600, 0, 400, 190, 1, 0);
+        CHECK.due("digest()", x.digest(), digestOf(
+            8, 80, 56, 0, 2, 1, 70, 60, 0, 0, 1, 60, 60, 0, 0, 1, 50, 59, 0, 0, 1,
+            40, 60, 0, 0, 1, 30, 59, 0, 1, 1, 20, 60, 0, 0, 1, 10, 60, 0, 0, 1,
+            1000, 10, 100, 99, 110, 99, 120, 99, 130, 99, 140, 99,
+            150, 99, 160, 99, 170, 99, 180, 99, 190, 99,
+            0, 410, 10, 210, 190, 21600, 0, 400, 190, 1, 0));
     }
 }
