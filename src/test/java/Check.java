@@ -1,5 +1,5 @@
 /** Compares answers with those that are due, and counts the wrong ones. */
-final class Check {
+class Check {
     private int wrong = 0;
     private int checks = 0;
     private String place = "";

@@ -1,9 +1,9 @@
 /** For each promise of the document: ordinary inputs, edges and wrong inputs. */
 public final class PromisesTest {
-    private static final Class<IllegalArgumentException> ARGUMENT = IllegalArgumentException.class;
-    private static final Class<IllegalStateException> STATE = IllegalStateException.class;
-    private static final Class<IndexOutOfBoundsException> INDEX = IndexOutOfBoundsException.class;
-    private static final Check CHECK = new Check();
+    private static final Class<IllegalArgumentException> ARGUMENT = MachineCheck.ARGUMENT;
+    private static final Class<IllegalStateException> STATE = MachineCheck.STATE;
+    private static final Class<IndexOutOfBoundsException> INDEX = MachineCheck.INDEX;
+    private static final MachineCheck CHECK = new MachineCheck();
 
     public static void main(String[] args) {
         aNewObject();
@@ -47,54 +47,6 @@ public final class PromisesTest {
         CHECK.end();
     }
 
-    // ---- machines to begin with
-
-    /** Kinds 10, 50, 5 (numbers 0, 1, 2), tubes for 4, 1 and 60, all empty; product 0: 35, stock 5. */
-    private static CoinMechanism small() {
-        CoinMechanism x = new CoinMechanism();
-        x.addKind(10, 4);
-        x.addKind(50, 1);
-        x.addKind(5, 60);
-        x.addProduct(35, 5);
-        return x;
-    }
-
-    private static CoinMechanism withTubes(int[] values, int[] coins) {
-        CoinMechanism x = new CoinMechanism();
-        for (int i = 0; i < values.length; i++) {
-            x.addKind(values[i], 60);
-            x.fill(i, coins[i]);
-        }
-        return x;
-    }
-
-    private static void insertAll(CoinMechanism x, int... kinds) {
-        for (int kind : kinds) {
-            CHECK.due("insert(" + kind + ")", x.insert(kind), 0);
-        }
-    }
-
-    private static void dueCoins(CoinMechanism x, int what, int... want) {
-        for (int kind = 0; kind < want.length; kind++) {
-            CHECK.due("coins(" + kind + ", " + what + ")", x.coins(kind, what), want[kind]);
-        }
-    }
-
-    private static void dueParts(CoinMechanism x, int amount, int... want) {
-        int sum = 0;
-        for (int kind = 0; kind < want.length; kind++) {
-            CHECK.due("part(" + amount + ", " + kind + ")", x.part(amount, kind), want[kind]);
-            sum += want[kind];
-        }
-        CHECK.due("fewest(" + amount + ")", x.fewest(amount), sum);
-    }
-
-    private static void dueAudit(CoinMechanism x, long... want) {
-        for (int what = 0; what < 10; what++) {
-            CHECK.due("audit(" + what + ")", x.audit(what), what < want.length ? want[what] : 0L);
-        }
-    }
-
     // ---- promise 1
 
     private static void aNewObject() {
@@ -109,7 +61,7 @@ public final class PromisesTest {
         CHECK.due("emptyBox()", x.emptyBox(), 0);
         CHECK.due("fewest(0)", x.fewest(0), 0);
         CHECK.due("fewest(1)", x.fewest(1), -1);
-        dueAudit(x);
+        CHECK.dueAudit(x);
         CHECK.due("setLimit(0)", x.setLimit(0), 1000);
     }
 
@@ -127,8 +79,8 @@ public final class PromisesTest {
         CHECK.due("addKind(1, 0)", x.addKind(1, 0), 0);
         CHECK.due("addKind(500, 60)", x.addKind(500, 60), 1);
         CHECK.due("addKind(7, 3)", x.addKind(7, 3), 2);
-        dueCoins(x, 0, 1, 500, 7);
-        dueCoins(x, 1, 0, 0, 0);
+        CHECK.dueCoins(x, 0, 1, 500, 7);
+        CHECK.dueCoins(x, 1, 0, 0, 0);
         CHECK.due("fill(0, 5): capacity 0", x.fill(0, 5), 5);
         CHECK.due("fill(1, 60): capacity 60", x.fill(1, 60), 0);
         CHECK.due("fill(2, 5): capacity 3", x.fill(2, 5), 2);
@@ -154,16 +106,16 @@ public final class PromisesTest {
 
     private static void fill() {
         CHECK.at("3 fill");
-        CoinMechanism x = small();
+        CoinMechanism x = Machines.small();
         CHECK.due("fill(0, 3)", x.fill(0, 3), 0);
-        dueCoins(x, 1, 3, 0, 0);
+        CHECK.dueCoins(x, 1, 3, 0, 0);
         CHECK.due("fill(0, 3)", x.fill(0, 3), 2);
-        dueCoins(x, 1, 4, 0, 0);
+        CHECK.dueCoins(x, 1, 4, 0, 0);
         CHECK.due("fill(0, 1)", x.fill(0, 1), 1);
         CHECK.due("fill(0, 0)", x.fill(0, 0), 0);
         CHECK.due("fill(2, 60)", x.fill(2, 60), 0);
-        dueCoins(x, 1, 4, 0, 60);
-        dueCoins(x, 2, 0, 0, 0);
+        CHECK.dueCoins(x, 1, 4, 0, 60);
+        CHECK.dueCoins(x, 2, 0, 0, 0);
         CHECK.due("audit(4)", x.audit(4), 340L);
         CHECK.dueThrow("fill(0, -1)", ARGUMENT, () -> x.fill(0, -1));
         CHECK.dueThrow("fill(0, 61)", ARGUMENT, () -> x.fill(0, 61));
@@ -174,13 +126,13 @@ public final class PromisesTest {
 
     private static void take() {
         CHECK.at("4 take");
-        CoinMechanism x = small();
+        CoinMechanism x = Machines.small();
         x.fill(2, 50);
         CHECK.due("take(2, 8)", x.take(2, 8), 8);
-        dueCoins(x, 1, 0, 0, 42);
+        CHECK.dueCoins(x, 1, 0, 0, 42);
         CHECK.due("take(2, 0)", x.take(2, 0), 0);
         CHECK.due("take(2, 60)", x.take(2, 60), 42);
-        dueCoins(x, 1, 0, 0, 0);
+        CHECK.dueCoins(x, 1, 0, 0, 0);
         CHECK.due("take(2, 1)", x.take(2, 1), 0);
         CHECK.due("audit(5)", x.audit(5), 250L);
         CHECK.dueThrow("take(0, -1)", ARGUMENT, () -> x.take(0, -1));
@@ -192,15 +144,15 @@ public final class PromisesTest {
 
     private static void emptyBox() {
         CHECK.at("5 emptyBox");
-        CoinMechanism x = small();
+        CoinMechanism x = Machines.small();
         x.setProduct(0, 120, 5);
         x.fill(0, 3);
-        insertAll(x, 0, 0, 1, 1);
+        CHECK.insertAll(x, 0, 0, 1, 1);
         CHECK.due("buy(0)", x.buy(0), 0);
-        dueCoins(x, 2, 1, 1, 0);
+        CHECK.dueCoins(x, 2, 1, 1, 0);
         CHECK.due("emptyBox()", x.emptyBox(), 60);
-        dueCoins(x, 2, 0, 0, 0);
-        dueCoins(x, 1, 4, 1, 0);
+        CHECK.dueCoins(x, 2, 0, 0, 0);
+        CHECK.dueCoins(x, 1, 4, 1, 0);
         CHECK.due("emptyBox() again", x.emptyBox(), 0);
         CHECK.due("audit(6)", x.audit(6), 60L);
     }
@@ -209,7 +161,7 @@ public final class PromisesTest {
 
     private static void accept() {
         CHECK.at("6 accept");
-        CoinMechanism x = small();
+        CoinMechanism x = Machines.small();
         CHECK.due("accept(1, false)", x.accept(1, false), true);
         CHECK.due("accept(1, false)", x.accept(1, false), false);
         CHECK.due("insert(1)", x.insert(1), 1);
@@ -223,14 +175,14 @@ public final class PromisesTest {
 
     private static void setLimit() {
         CHECK.at("7 setLimit");
-        CoinMechanism x = small();
+        CoinMechanism x = Machines.small();
         CHECK.due("setLimit(0)", x.setLimit(0), 1000);
         CHECK.due("insert(2)", x.insert(2), 3);
         CHECK.due("setLimit(2000)", x.setLimit(2000), 0);
         CHECK.dueThrow("setLimit(2001)", ARGUMENT, () -> x.setLimit(2001));
         CHECK.dueThrow("setLimit(-1)", ARGUMENT, () -> x.setLimit(-1));
         CHECK.due("setLimit(55)", x.setLimit(55), 2000);
-        insertAll(x, 1, 2);
+        CHECK.insertAll(x, 1, 2);
         CHECK.due("setLimit(10), below the credit", x.setLimit(10), 55);
         CHECK.due("credit()", x.credit(), 55);
         CHECK.due("insert(2)", x.insert(2), 3);
@@ -259,7 +211,7 @@ public final class PromisesTest {
 
     private static void setProduct() {
         CHECK.at("9 setProduct");
-        CoinMechanism x = small();
+        CoinMechanism x = Machines.small();
         CHECK.due("setProduct(0, 2000, 0)", x.setProduct(0, 2000, 0), 35);
         CHECK.due("setProduct(0, 1, 99)", x.setProduct(0, 1, 99), 2000);
         CHECK.due("product(0, false)", x.product(0, false), 1);
@@ -275,7 +227,7 @@ public final class PromisesTest {
 
     private static void product() {
         CHECK.at("10 product");
-        CoinMechanism x = small();
+        CoinMechanism x = Machines.small();
         x.addProduct(90, 7);
         CHECK.due("product(0, false)", x.product(0, false), 35);
         CHECK.due("product(0, true)", x.product(0, true), 5);
@@ -289,23 +241,23 @@ public final class PromisesTest {
 
     private static void insert() {
         CHECK.at("11 insert");
-        CoinMechanism x = small();
+        CoinMechanism x = Machines.small();
         x.setLimit(60);
-        insertAll(x, 1, 0);
+        CHECK.insertAll(x, 1, 0);
         CHECK.due("credit() at the limit", x.credit(), 60);
         CHECK.due("insert(2) above the limit", x.insert(2), 3);
         x.accept(2, false);
         CHECK.due("insert(2): not accepted is named first", x.insert(2), 1);
         CHECK.due("credit()", x.credit(), 60);
         CHECK.due("audit(0)", x.audit(0), 60L);
-        dueCoins(x, 1, 0, 0, 0);
+        CHECK.dueCoins(x, 1, 0, 0, 0);
         CHECK.dueThrow("insert(3)", INDEX, () -> x.insert(3));
         CHECK.dueThrow("insert(-1)", INDEX, () -> x.insert(-1));
     }
 
     private static void insertAtTheEscrowsEnd() {
         CHECK.at("11 insert, 12 coins");
-        CoinMechanism x = small();
+        CoinMechanism x = Machines.small();
         for (int i = 0; i < 12; i++) {
             CHECK.due("insert", x.insert(i % 3), 0);
         }
@@ -323,61 +275,61 @@ public final class PromisesTest {
 
     private static void cancel() {
         CHECK.at("12 cancel");
-        CoinMechanism x = small();
-        insertAll(x, 0, 1, 2, 2);
+        CoinMechanism x = Machines.small();
+        CHECK.insertAll(x, 0, 1, 2, 2);
         CHECK.due("cancel()", x.cancel(), 70);
         CHECK.due("credit()", x.credit(), 0);
         CHECK.dueThrow("escrow(0)", INDEX, () -> x.escrow(0));
         CHECK.due("cancel()", x.cancel(), 0);
-        insertAll(x, 1);
+        CHECK.insertAll(x, 1);
         CHECK.due("cancel()", x.cancel(), 50);
-        dueCoins(x, 1, 0, 0, 0);
-        dueCoins(x, 2, 0, 0, 0);
-        dueAudit(x, 120, 120);
+        CHECK.dueCoins(x, 1, 0, 0, 0);
+        CHECK.dueCoins(x, 2, 0, 0, 0);
+        CHECK.dueAudit(x, 120, 120);
     }
 
     // ---- promise 13
 
     private static void buy() {
         CHECK.at("13 buy");
-        CoinMechanism x = small();
+        CoinMechanism x = Machines.small();
         x.fill(0, 3);
         x.fill(2, 3);
-        insertAll(x, 1);
+        CHECK.insertAll(x, 1);
         CHECK.due("buy(0)", x.buy(0), 0);
-        dueCoins(x, 1, 2, 1, 2);
-        dueCoins(x, 3, 1, 0, 1);
+        CHECK.dueCoins(x, 1, 2, 1, 2);
+        CHECK.dueCoins(x, 3, 1, 0, 1);
         CHECK.due("credit()", x.credit(), 0);
         CHECK.dueThrow("escrow(0)", INDEX, () -> x.escrow(0));
         CHECK.due("product(0, true)", x.product(0, true), 4);
-        dueAudit(x, 50, 0, 15, 0, 45, 0, 0, 35, 1, 0);
-        insertAll(x, 0, 0, 0, 2);
+        CHECK.dueAudit(x, 50, 0, 15, 0, 45, 0, 0, 35, 1, 0);
+        CHECK.insertAll(x, 0, 0, 0, 2);
         CHECK.due("buy(0) with exact money", x.buy(0), 0);
-        dueCoins(x, 3, 0, 0, 0);
-        dueCoins(x, 1, 4, 1, 3);
-        dueCoins(x, 2, 1, 0, 0);
-        dueAudit(x, 85, 0, 15, 0, 45, 0, 0, 70, 2, 1);
+        CHECK.dueCoins(x, 3, 0, 0, 0);
+        CHECK.dueCoins(x, 1, 4, 1, 3);
+        CHECK.dueCoins(x, 2, 1, 0, 0);
+        CHECK.dueAudit(x, 85, 0, 15, 0, 45, 0, 0, 70, 2, 1);
         CHECK.dueThrow("buy(1)", INDEX, () -> x.buy(1));
         CHECK.dueThrow("buy(-1)", INDEX, () -> x.buy(-1));
     }
 
     private static void buyWhenNothingChanges() {
         CHECK.at("13 buy, not sold");
-        CoinMechanism x = small();
+        CoinMechanism x = Machines.small();
         CHECK.due("buy(0) without money", x.buy(0), 2);
         x.setProduct(0, 35, 0);
         CHECK.due("buy(0): the stock is named first", x.buy(0), 1);
         x.setProduct(0, 35, 1);
-        insertAll(x, 0, 0, 0);
+        CHECK.insertAll(x, 0, 0, 0);
         CHECK.due("buy(0) with 30", x.buy(0), 2);
         x.cancel();
         x.fill(0, 3);
-        insertAll(x, 0, 1);
+        CHECK.insertAll(x, 0, 1);
         long before = x.digest();
         CHECK.due("buy(0): 25 cannot be paid", x.buy(0), 3);
         CHECK.due("digest() after", x.digest(), before);
-        dueCoins(x, 1, 3, 0, 0);
-        dueCoins(x, 2, 0, 0, 0);
+        CHECK.dueCoins(x, 1, 3, 0, 0);
+        CHECK.dueCoins(x, 2, 0, 0, 0);
         CHECK.due("escrow(0)", x.escrow(0), 0);
         CHECK.due("escrow(1)", x.escrow(1), 1);
         CHECK.dueThrow("refund()", STATE, () -> x.refund());
@@ -392,64 +344,64 @@ public final class PromisesTest {
         x.addKind(10, 2);
         x.addKind(20, 0);
         x.addProduct(10, 9);
-        insertAll(x, 0, 0, 0, 0);
+        CHECK.insertAll(x, 0, 0, 0, 0);
         CHECK.due("buy(0): 30 of 20 in the tube", x.buy(0), 3);
         CHECK.due("cancel()", x.cancel(), 40);
-        insertAll(x, 0, 0, 0);
+        CHECK.insertAll(x, 0, 0, 0);
         CHECK.due("buy(0): the inserted coins pay", x.buy(0), 0);
-        dueCoins(x, 1, 0, 0);
-        dueCoins(x, 2, 1, 0);
-        dueCoins(x, 3, 2, 0);
-        insertAll(x, 1);
+        CHECK.dueCoins(x, 1, 0, 0);
+        CHECK.dueCoins(x, 2, 1, 0);
+        CHECK.dueCoins(x, 3, 2, 0);
+        CHECK.insertAll(x, 1);
         CHECK.due("buy(0): the tube is empty", x.buy(0), 3);
-        insertAll(x, 0);
+        CHECK.insertAll(x, 0);
         x.setProduct(0, 20, 9);
         CHECK.due("buy(0)", x.buy(0), 0);
-        dueCoins(x, 1, 0, 0);
-        dueCoins(x, 2, 1, 1);
-        dueCoins(x, 3, 1, 0);
+        CHECK.dueCoins(x, 1, 0, 0);
+        CHECK.dueCoins(x, 2, 1, 1);
+        CHECK.dueCoins(x, 3, 1, 0);
     }
 
     private static void buyTakesTheBestOfSeveralWays() {
         CHECK.at("13 buy, the way it pays");
-        CoinMechanism x = withTubes(new int[] {20, 50, 30, 100}, new int[] {3, 1, 2, 0});
+        CoinMechanism x = Machines.withTubes(new int[] {20, 50, 30, 100}, new int[] {3, 1, 2, 0});
         x.addProduct(40, 9);
-        insertAll(x, 3);
+        CHECK.insertAll(x, 3);
         CHECK.due("buy(0): 60", x.buy(0), 0);
-        dueCoins(x, 3, 0, 0, 2, 0);
-        dueCoins(x, 1, 3, 1, 0, 1);
+        CHECK.dueCoins(x, 3, 0, 0, 2, 0);
+        CHECK.dueCoins(x, 1, 3, 1, 0, 1);
         x.setProduct(0, 1, 9);
         CHECK.due("setLimit", x.setLimit(2000), 1000);
-        CoinMechanism y = withTubes(new int[] {1, 500}, new int[] {60, 0});
+        CoinMechanism y = Machines.withTubes(new int[] {1, 500}, new int[] {60, 0});
         y.addProduct(1, 1);
         y.setLimit(2000);
-        insertAll(y, 1, 1, 1, 1);
+        CHECK.insertAll(y, 1, 1, 1, 1);
         CHECK.due("buy(0): 1999 of 4 coins of 500 and 60 of 1", y.buy(0), 3);
         y.fill(1, 60);
         CHECK.due("buy(0)", y.buy(0), 3);
         y.setProduct(0, 440, 1);
         CHECK.due("buy(0)", y.buy(0), 0);
-        dueCoins(y, 3, 60, 3);
+        CHECK.dueCoins(y, 3, 60, 3);
     }
 
     // ---- promise 14
 
     private static void refund() {
         CHECK.at("14 refund");
-        CoinMechanism x = small();
+        CoinMechanism x = Machines.small();
         x.setProduct(0, 35, 2);
-        insertAll(x, 0, 0, 0, 2);
+        CHECK.insertAll(x, 0, 0, 0, 2);
         x.buy(0);
         x.setProduct(0, 50, 7);
         CHECK.due("refund() of 35", x.refund(), true);
-        dueCoins(x, 1, 0, 0, 0);
-        dueCoins(x, 3, 3, 0, 1);
+        CHECK.dueCoins(x, 1, 0, 0, 0);
+        CHECK.dueCoins(x, 3, 3, 0, 1);
         CHECK.due("product(0, true)", x.product(0, true), 8);
         CHECK.due("product(0, false)", x.product(0, false), 50);
-        dueAudit(x, 35, 0, 0, 35, 0, 0, 0, 35, 1, 1);
+        CHECK.dueAudit(x, 35, 0, 0, 35, 0, 0, 0, 35, 1, 1);
         CHECK.dueThrow("refund() again", STATE, () -> x.refund());
         x.setProduct(0, 10, 99);
-        insertAll(x, 0);
+        CHECK.insertAll(x, 0);
         CHECK.due("buy(0)", x.buy(0), 0);
         x.setProduct(0, 10, 99);
         CHECK.due("refund()", x.refund(), true);
@@ -458,31 +410,31 @@ public final class PromisesTest {
 
     private static void refundThatCannotBePaid() {
         CHECK.at("14 refund, not paid");
-        CoinMechanism x = small();
+        CoinMechanism x = Machines.small();
         x.fill(0, 2);
-        insertAll(x, 1, 2);
+        CHECK.insertAll(x, 1, 2);
         CHECK.due("buy(0): 20 back", x.buy(0), 0);
         x.take(2, 1);
         long before = x.digest();
         CHECK.due("refund()", x.refund(), false);
         CHECK.due("digest() after", x.digest(), before);
-        dueCoins(x, 3, 2, 0, 0);
-        insertAll(x, 0, 0, 0, 2);
+        CHECK.dueCoins(x, 3, 2, 0, 0);
+        CHECK.insertAll(x, 0, 0, 0, 2);
         CHECK.due("refund(): the escrow does not pay", x.refund(), false);
         x.fill(2, 9);
         CHECK.due("refund()", x.refund(), true);
-        dueCoins(x, 3, 0, 0, 7);
+        CHECK.dueCoins(x, 3, 0, 0, 7);
         CHECK.due("credit()", x.credit(), 35);
         CHECK.dueThrow("refund() again", STATE, () -> x.refund());
     }
 
     private static void refundOfTheLatestSaleAlone() {
         CHECK.at("14 refund, the latest sale");
-        CoinMechanism x = small();
+        CoinMechanism x = Machines.small();
         x.addProduct(10, 3);
-        insertAll(x, 0, 0, 0, 2);
+        CHECK.insertAll(x, 0, 0, 0, 2);
         x.buy(0);
-        insertAll(x, 0);
+        CHECK.insertAll(x, 0);
         x.buy(1);
         CHECK.due("refund() of product 1", x.refund(), true);
         CHECK.due("product(1, true)", x.product(1, true), 3);
@@ -490,7 +442,7 @@ public final class PromisesTest {
         CHECK.dueThrow("refund(): none behind it", STATE, () -> x.refund());
         CHECK.due("buy(0): not sold", x.buy(0), 2);
         CHECK.dueThrow("refund(): still none", STATE, () -> x.refund());
-        insertAll(x, 0);
+        CHECK.insertAll(x, 0);
         x.buy(1);
         CHECK.due("refund() of the new sale", x.refund(), true);
         CHECK.due("audit(3)", x.audit(3), 20L);
@@ -500,8 +452,8 @@ public final class PromisesTest {
 
     private static void credit() {
         CHECK.at("15 credit");
-        CoinMechanism x = small();
-        insertAll(x, 0, 2, 1, 0);
+        CoinMechanism x = Machines.small();
+        CHECK.insertAll(x, 0, 2, 1, 0);
         CHECK.due("credit()", x.credit(), 75);
         x.accept(0, false);
         x.fill(1, 1);
@@ -512,8 +464,8 @@ public final class PromisesTest {
 
     private static void escrow() {
         CHECK.at("16 escrow");
-        CoinMechanism x = small();
-        insertAll(x, 2, 0, 1, 2);
+        CoinMechanism x = Machines.small();
+        CHECK.insertAll(x, 2, 0, 1, 2);
         CHECK.due("escrow(0)", x.escrow(0), 2);
         CHECK.due("escrow(1)", x.escrow(1), 0);
         CHECK.due("escrow(2)", x.escrow(2), 1);
@@ -525,18 +477,18 @@ public final class PromisesTest {
 
     private static void coins() {
         CHECK.at("17 coins");
-        CoinMechanism x = small();
+        CoinMechanism x = Machines.small();
         x.setProduct(0, 110, 9);
         x.fill(0, 1);
         x.fill(2, 3);
-        insertAll(x, 1, 1, 0, 2);
+        CHECK.insertAll(x, 1, 1, 0, 2);
         CHECK.due("buy(0)", x.buy(0), 0);
         int[][] want = {{10, 2, 0, 0}, {50, 1, 1, 0}, {5, 3, 0, 1}};
         for (int what = 0; what < 4; what++) {
-            dueCoins(x, what, want[0][what], want[1][what], want[2][what]);
+            CHECK.dueCoins(x, what, want[0][what], want[1][what], want[2][what]);
         }
         x.addKind(1, 5);
-        dueCoins(x, 3, 0, 0, 1, 0);
+        CHECK.dueCoins(x, 3, 0, 0, 1, 0);
         CHECK.dueThrow("coins(0, 4)", INDEX, () -> x.coins(0, 4));
         CHECK.dueThrow("coins(0, -1)", INDEX, () -> x.coins(0, -1));
         CHECK.dueThrow("coins(4, 0)", INDEX, () -> x.coins(4, 0));
@@ -547,7 +499,7 @@ public final class PromisesTest {
 
     private static void fewest() {
         CHECK.at("18 fewest");
-        CoinMechanism x = small();
+        CoinMechanism x = Machines.small();
         CHECK.due("fewest(0)", x.fewest(0), 0);
         CHECK.due("fewest(5)", x.fewest(5), -1);
         x.fill(0, 4);
@@ -561,7 +513,7 @@ public final class PromisesTest {
         CHECK.due("fewest(145)", x.fewest(145), -1);
         CHECK.due("fewest(7)", x.fewest(7), -1);
         x.accept(1, false);
-        insertAll(x, 0);
+        CHECK.insertAll(x, 0);
         CHECK.due("fewest(50): not accepted, but there", x.fewest(50), 1);
         CHECK.due("fewest(145)", x.fewest(145), -1);
         CHECK.dueThrow("fewest(-1)", ARGUMENT, () -> x.fewest(-1));
@@ -570,22 +522,22 @@ public final class PromisesTest {
 
     private static void fewestIsNotGreedy() {
         CHECK.at("18 fewest, not greedy");
-        CoinMechanism x = withTubes(new int[] {25, 10, 1}, new int[] {2, 4, 9});
+        CoinMechanism x = Machines.withTubes(new int[] {25, 10, 1}, new int[] {2, 4, 9});
         CHECK.due("fewest(40)", x.fewest(40), 4);
         CHECK.due("fewest(30)", x.fewest(30), 3);
-        CoinMechanism y = withTubes(new int[] {50, 20}, new int[] {1, 4});
+        CoinMechanism y = Machines.withTubes(new int[] {50, 20}, new int[] {1, 4});
         CHECK.due("fewest(80)", y.fewest(80), 4);
         CHECK.due("fewest(110)", y.fewest(110), 4);
     }
 
     private static void fewestInTheLargest() {
         CHECK.at("18 fewest, full tubes");
-        CoinMechanism x = withTubes(new int[] {1, 2, 3, 4, 5, 6, 7, 8},
+        CoinMechanism x = Machines.withTubes(new int[] {1, 2, 3, 4, 5, 6, 7, 8},
             new int[] {60, 60, 60, 60, 60, 60, 60, 60});
         // All have 2160 together; the most coins that are 160 stay: 60 of 1 and 50 of 2.
-        dueParts(x, 2000, 0, 10, 60, 60, 60, 60, 60, 60);
-        dueParts(x, 1999, 1, 9, 60, 60, 60, 60, 60, 60);
-        CoinMechanism y = withTubes(new int[] {3}, new int[] {60});
+        CHECK.dueParts(x, 2000, 0, 10, 60, 60, 60, 60, 60, 60);
+        CHECK.dueParts(x, 1999, 1, 9, 60, 60, 60, 60, 60, 60);
+        CoinMechanism y = Machines.withTubes(new int[] {3}, new int[] {60});
         for (int many = 0; many <= 60; many++) {
             CHECK.due("fewest(" + 3 * many + ")", y.fewest(3 * many), many);
             CHECK.due("part(" + 3 * many + ", 0)", y.part(3 * many, 0), many);
@@ -596,20 +548,20 @@ public final class PromisesTest {
 
     private static void part() {
         CHECK.at("19 part");
-        CoinMechanism x = withTubes(new int[] {20, 50, 30}, new int[] {3, 1, 2});
-        dueParts(x, 0, 0, 0, 0);
-        dueParts(x, 60, 0, 0, 2);
-        dueParts(x, 70, 1, 1, 0);
-        dueParts(x, 110, 0, 1, 2);
-        dueParts(x, 120, 2, 1, 1);
+        CoinMechanism x = Machines.withTubes(new int[] {20, 50, 30}, new int[] {3, 1, 2});
+        CHECK.dueParts(x, 0, 0, 0, 0);
+        CHECK.dueParts(x, 60, 0, 0, 2);
+        CHECK.dueParts(x, 70, 1, 1, 0);
+        CHECK.dueParts(x, 110, 0, 1, 2);
+        CHECK.dueParts(x, 120, 2, 1, 1);
         CHECK.due("part(10, 0)", x.part(10, 0), -1);
         CHECK.due("part(10, 2)", x.part(10, 2), -1);
         // 100 = 60 + 40 = 50 + 50 and 90 + 10: the greatest value decides.
-        dueParts(withTubes(new int[] {50, 40, 60, 90, 10}, new int[] {9, 9, 9, 9, 9}), 100, 0, 0, 0, 1, 1);
+        CHECK.dueParts(Machines.withTubes(new int[] {50, 40, 60, 90, 10}, new int[] {9, 9, 9, 9, 9}), 100, 0, 0, 0, 1, 1);
         // 12 = 5 + 4 + 3 = 5 + 5 + 2 = 4 + 4 + 4: more of 5.
-        dueParts(withTubes(new int[] {2, 3, 4, 5}, new int[] {9, 9, 9, 9}), 12, 1, 0, 0, 2);
+        CHECK.dueParts(Machines.withTubes(new int[] {2, 3, 4, 5}, new int[] {9, 9, 9, 9}), 12, 1, 0, 0, 2);
         // 14 = 9 + 3 + 2 = 9 + 4 + 1: the same number of 9, so more of 4.
-        dueParts(withTubes(new int[] {1, 2, 3, 4, 9}, new int[] {9, 9, 9, 9, 9}), 14, 1, 0, 0, 1, 1);
+        CHECK.dueParts(Machines.withTubes(new int[] {1, 2, 3, 4, 9}, new int[] {9, 9, 9, 9, 9}), 14, 1, 0, 0, 1, 1);
         CHECK.dueThrow("part(-1, 0)", ARGUMENT, () -> x.part(-1, 0));
         CHECK.dueThrow("part(2001, 0)", ARGUMENT, () -> x.part(2001, 0));
         CHECK.dueThrow("part(2001, 3): the first named", ARGUMENT, () -> x.part(2001, 3));
@@ -619,23 +571,23 @@ public final class PromisesTest {
 
     private static void below() {
         CHECK.at("20 below");
-        CoinMechanism x = withTubes(new int[] {20, 50, 30}, new int[] {3, 1, 2});
+        CoinMechanism x = Machines.withTubes(new int[] {20, 50, 30}, new int[] {3, 1, 2});
         CHECK.due("below(0)", x.below(0), 0);
         CHECK.due("below(19)", x.below(19), 0);
         CHECK.due("below(20)", x.below(20), 20);
         CHECK.due("below(39)", x.below(39), 30);
         CHECK.due("below(169)", x.below(169), 150);
         CHECK.due("below(2000)", x.below(2000), 170);
-        CHECK.due("below(1)", withTubes(new int[] {1}, new int[] {1}).below(1), 1);
+        CHECK.due("below(1)", Machines.withTubes(new int[] {1}, new int[] {1}).below(1), 1);
         CHECK.due("below(77), no kinds", new CoinMechanism().below(77), 0);
-        CHECK.due("below(2000)", withTubes(new int[] {500}, new int[] {5}).below(2000), 2000);
+        CHECK.due("below(2000)", Machines.withTubes(new int[] {500}, new int[] {5}).below(2000), 2000);
         CHECK.dueThrow("below(-1)", ARGUMENT, () -> x.below(-1));
         CHECK.dueThrow("below(2001)", ARGUMENT, () -> x.below(2001));
     }
 
     private static void gaps() {
         CHECK.at("21 gaps");
-        CoinMechanism x = withTubes(new int[] {20, 50, 30}, new int[] {3, 1, 2});
+        CoinMechanism x = Machines.withTubes(new int[] {20, 50, 30}, new int[] {3, 1, 2});
         CHECK.due("gaps(0)", x.gaps(0), 0);
         CHECK.due("gaps(9)", x.gaps(9), 0);
         CHECK.due("gaps(10)", x.gaps(10), 1);
@@ -643,7 +595,7 @@ public final class PromisesTest {
         CHECK.due("gaps(160)", x.gaps(160), 2);
         CHECK.due("gaps(2000)", x.gaps(2000), 200 - 15);
         CHECK.due("gaps(2000), no kinds", new CoinMechanism().gaps(2000), 0);
-        CHECK.due("gaps(2000), empty tube", withTubes(new int[] {1}, new int[] {0}).gaps(2000), 2000);
+        CHECK.due("gaps(2000), empty tube", Machines.withTubes(new int[] {1}, new int[] {0}).gaps(2000), 2000);
         CHECK.dueThrow("gaps(-1)", ARGUMENT, () -> x.gaps(-1));
         CHECK.dueThrow("gaps(2001)", ARGUMENT, () -> x.gaps(2001));
         CHECK.dueThrow("gaps(2001), no kinds", ARGUMENT, () -> new CoinMechanism().gaps(2001));
@@ -701,7 +653,7 @@ public final class PromisesTest {
         x.setProduct(0, 101, 1);
         CHECK.due("lamp(), 49 and 4", x.lamp(), true);
         x.fill(1, 9);
-        insertAll(x, 1, 1, 1);
+        CHECK.insertAll(x, 1, 1, 1);
         CHECK.due("lamp(), still", x.lamp(), true);
     }
 
@@ -741,36 +693,36 @@ public final class PromisesTest {
 
     private static void audit() {
         CHECK.at("24 audit");
-        CoinMechanism x = small();
-        dueAudit(x);
+        CoinMechanism x = Machines.small();
+        CHECK.dueAudit(x);
         x.fill(0, 9);
         x.fill(2, 20);
         x.take(2, 3);
-        insertAll(x, 2, 2);
+        CHECK.insertAll(x, 2, 2);
         x.cancel();
-        insertAll(x, 1, 1);
+        CHECK.insertAll(x, 1, 1);
         CHECK.due("buy(0)", x.buy(0), 0);
         CHECK.due("refund()", x.refund(), true);
-        insertAll(x, 2, 2, 2, 2, 2, 2, 2);
+        CHECK.insertAll(x, 2, 2, 2, 2, 2, 2, 2);
         CHECK.due("buy(0)", x.buy(0), 0);
         x.emptyBox();
-        dueAudit(x, 145, 10, 65, 35, 140, 15, 50, 70, 2, 1);
+        CHECK.dueAudit(x, 145, 10, 65, 35, 140, 15, 50, 70, 2, 1);
         CHECK.dueThrow("audit(10)", INDEX, () -> x.audit(10));
         CHECK.dueThrow("audit(-1)", INDEX, () -> x.audit(-1));
     }
 
     private static void exactShare() {
         CHECK.at("25 exactShare");
-        CoinMechanism x = small();
+        CoinMechanism x = Machines.small();
         CHECK.due("exactShare()", x.exactShare(), 1.0);
         x.fill(2, 60);
-        insertAll(x, 1);
+        CHECK.insertAll(x, 1);
         x.buy(0);
         CHECK.due("exactShare()", x.exactShare(), 0.0);
-        insertAll(x, 0, 0, 0, 2);
+        CHECK.insertAll(x, 0, 0, 0, 2);
         x.buy(0);
         CHECK.due("exactShare()", x.exactShare(), 0.5);
-        insertAll(x, 1);
+        CHECK.insertAll(x, 1);
         x.buy(0);
         CHECK.due("exactShare()", x.exactShare(), 1.0 / 3.0);
         x.refund();
@@ -787,11 +739,11 @@ public final class PromisesTest {
         x.fill(1, 9);
         x.addProduct(35, 5);
         x.addProduct(2000, 1);
-        insertAll(x, 0, 0, 0, 0);
+        CHECK.insertAll(x, 0, 0, 0, 0);
         x.buy(0);
-        insertAll(x, 0);
+        CHECK.insertAll(x, 0);
         x.accept(1, true);
-        insertAll(x, 1, 0);
+        CHECK.insertAll(x, 1, 0);
         x.accept(1, false);
         x.setLimit(77);
         CHECK.due("digest()", x.digest(), digestOf(
@@ -813,9 +765,9 @@ public final class PromisesTest {
 
     private static void throwingChangesNothing() {
         CHECK.at("throwing changes nothing");
-        CoinMechanism x = small();
+        CoinMechanism x = Machines.small();
         x.fill(2, 9);
-        insertAll(x, 0, 1);
+        CHECK.insertAll(x, 0, 1);
         long before = x.digest();
         Check.Call[] calls = {
             () -> x.addKind(0, 1), () -> x.addKind(10, 1), () -> x.fill(0, 61), () -> x.fill(3, 1),
@@ -842,23 +794,23 @@ public final class PromisesTest {
         for (int product = 0; product < 10; product++) {
             x.addProduct(100 + 10 * product, 99);
         }
-        insertAll(x, 0, 1, 2, 3, 4, 5, 6, 7, 7, 7, 7, 7);
+        CHECK.insertAll(x, 0, 1, 2, 3, 4, 5, 6, 7, 7, 7, 7, 7);
         CHECK.due("credit()", x.credit(), 400);
         CHECK.due("unit()", x.unit(), 10);
         CHECK.due("lamp()", x.lamp(), false);
         CHECK.due("gaps(2000)", x.gaps(2000), 0);
         CHECK.due("below(2000)", x.below(2000), 2000);
-        dueParts(x, 150, 1, 1, 0, 0, 0, 0, 0, 0);
+        CHECK.dueParts(x, 150, 1, 1, 0, 0, 0, 0, 0, 0);
         CHECK.due("buy(9)", x.buy(9), 0);
-        dueCoins(x, 2, 1, 1, 1, 1, 1, 1, 1, 5);
-        dueCoins(x, 3, 2, 0, 0, 1, 0, 0, 0, 0);
-        dueCoins(x, 1, 58, 60, 60, 59, 60, 60, 60, 60);
+        CHECK.dueCoins(x, 2, 1, 1, 1, 1, 1, 1, 1, 5);
+        CHECK.dueCoins(x, 3, 2, 0, 0, 1, 0, 0, 0, 0);
+        CHECK.dueCoins(x, 1, 58, 60, 60, 59, 60, 60, 60, 60);
         CHECK.due("refund()", x.refund(), true);
-        dueCoins(x, 3, 2, 0, 0, 0, 0, 1, 0, 0);
+        CHECK.dueCoins(x, 3, 2, 0, 0, 0, 0, 1, 0, 0);
         CHECK.due("emptyBox()", x.emptyBox(), 400);
-        insertAll(x, 7);
+        CHECK.insertAll(x, 7);
         CHECK.due("cancel()", x.cancel(), 10);
-        dueAudit(x, 410, 10, 210, 190, 21600, 0, 400, 190, 1, 0);
+        CHECK.dueAudit(x, 410, 10, 210, 190, 21600, 0, 400, 190, 1, 0);
         CHECK.due("digest()", x.digest(), digestOf(
             8, 80, 56, 0, 2, 1, 70, 60, 0, 0, 1, 60, 60, 0, 0, 1, 50, 59, 0, 0, 1,
             40, 60, 0, 0, 1, 30, 59, 0, 1, 1, 20, 60, 0, 0, 1, 10, 60, 0, 0, 1,
