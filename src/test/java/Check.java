@@ -8,6 +8,18 @@ class Check {
         Object answer();
     }
 
+    /** Runs each test; one that throws is wrong, and those after it run all the same. */
+    void run(Runnable... tests) {
+        for (Runnable test : tests) {
+            try {
+                test.run();
+            } catch (RuntimeException thrown) {
+                wrong++;
+                System.out.println(place + ": the test ended with " + thrown);
+            }
+        }
+    }
+
     void at(String newPlace) {
         place = newPlace;
     }

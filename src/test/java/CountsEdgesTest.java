@@ -10,23 +10,24 @@ public final class CountsEdgesTest {
     private static final MachineCheck CHECK = new MachineCheck();
 
     public static void main(String[] args) {
-        auditWhat0To9();
-        auditOfNothing();
-        auditOfCoinsThatCameIn();
-        auditOfCoinsGivenBack();
-        auditOfCoinsPaid();
-        auditOfFillAndTake();
-        auditOfTheBox();
-        auditOfSales();
-        auditOfAllSalesTakenBack();
-        exactShareOfNone();
-        exactShareOfAllAndOfSome();
-        digestOfNothing();
-        digestOfEverything();
-        digestWrapsAround();
-        digestTellsOfEachNumber();
-        noOtherObjectIsTouched();
-        upTo512Calls();
+        CHECK.run(
+            CountsEdgesTest::auditWhat0To9,
+            CountsEdgesTest::auditOfNothing,
+            CountsEdgesTest::auditOfCoinsThatCameIn,
+            CountsEdgesTest::auditOfCoinsGivenBack,
+            CountsEdgesTest::auditOfCoinsPaid,
+            CountsEdgesTest::auditOfFillAndTake,
+            CountsEdgesTest::auditOfTheBox,
+            CountsEdgesTest::auditOfSales,
+            CountsEdgesTest::auditOfAllSalesTakenBack,
+            CountsEdgesTest::exactShareOfNone,
+            CountsEdgesTest::exactShareOfAllAndOfSome,
+            CountsEdgesTest::digestOfNothing,
+            CountsEdgesTest::digestOfEverything,
+            CountsEdgesTest::digestWrapsAround,
+            CountsEdgesTest::digestTellsOfEachNumber,
+            CountsEdgesTest::noOtherObjectIsTouched,
+            CountsEdgesTest::upTo512Calls);
         CHECK.end();
     }
 

@@ -6,27 +6,28 @@ public final class KindsEdgesTest {
     private static final MachineCheck CHECK = new MachineCheck();
 
     public static void main(String[] args) {
-        withoutKindsAndProducts();
-        nothingCountedPaidOrSold();
-        atMostEightKinds();
-        numberedInOrder();
-        value1To500();
-        capacity0To60();
-        noTwoTheSame();
-        firstNamedOfAddKind();
-        acceptedAtFirst();
-        allAreEmptyAtFirst();
-        boxWithoutLimit();
-        fillOfNoSuchKind();
-        fillAsManyAsHaveRoom();
-        fillMany0To60();
-        takeOfNoSuchKind();
-        takeAsManyAsThereAre();
-        takeMany0To60();
-        emptyBoxWithNothing();
-        emptyBoxOfAllKinds();
-        acceptOfNoSuchKind();
-        acceptTellsBefore();
+        CHECK.run(
+            KindsEdgesTest::withoutKindsAndProducts,
+            KindsEdgesTest::nothingCountedPaidOrSold,
+            KindsEdgesTest::atMostEightKinds,
+            KindsEdgesTest::numberedInOrder,
+            KindsEdgesTest::value1To500,
+            KindsEdgesTest::capacity0To60,
+            KindsEdgesTest::noTwoTheSame,
+            KindsEdgesTest::firstNamedOfAddKind,
+            KindsEdgesTest::acceptedAtFirst,
+            KindsEdgesTest::allAreEmptyAtFirst,
+            KindsEdgesTest::boxWithoutLimit,
+            KindsEdgesTest::fillOfNoSuchKind,
+            KindsEdgesTest::fillAsManyAsHaveRoom,
+            KindsEdgesTest::fillMany0To60,
+            KindsEdgesTest::takeOfNoSuchKind,
+            KindsEdgesTest::takeAsManyAsThereAre,
+            KindsEdgesTest::takeMany0To60,
+            KindsEdgesTest::emptyBoxWithNothing,
+            KindsEdgesTest::emptyBoxOfAllKinds,
+            KindsEdgesTest::acceptOfNoSuchKind,
+            KindsEdgesTest::acceptTellsBefore);
         CHECK.end();
     }
 

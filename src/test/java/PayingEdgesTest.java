@@ -5,33 +5,34 @@ public final class PayingEdgesTest {
     private static final MachineCheck CHECK = new MachineCheck();
 
     public static void main(String[] args) {
-        nothingCanAlwaysBePaid();
-        justThisValue();
-        fromTheTubesAlone();
-        asFewAsCanBe();
-        mostOfTheGreatestValue();
-        thenOfTheNextValue();
-        andSoOn();
-        allTubesFull();
-        fewestAmount0To2000();
-        fewestThatCannotBe();
-        partAmount0To2000();
-        partOfNoSuchKind();
-        partThatCannotBe();
-        belowAmount0To2000();
-        belowNotGreater();
-        belowWithNothing();
-        gapsAmount0To2000();
-        gapsFrom1ToThisOne();
-        gapsAreMultiplesOfTheUnit();
-        gapsWithoutKinds();
-        unitWithoutKinds();
-        unitOfAllKinds();
-        lampWithoutProductOrKind();
-        lampWithStockGreaterThan0();
-        lampWithAKindThatIsAccepted();
-        lampWithThePriceOrMore();
-        lampOfTheLastProductAndKind();
+        CHECK.run(
+            PayingEdgesTest::nothingCanAlwaysBePaid,
+            PayingEdgesTest::justThisValue,
+            PayingEdgesTest::fromTheTubesAlone,
+            PayingEdgesTest::asFewAsCanBe,
+            PayingEdgesTest::mostOfTheGreatestValue,
+            PayingEdgesTest::thenOfTheNextValue,
+            PayingEdgesTest::andSoOn,
+            PayingEdgesTest::allTubesFull,
+            PayingEdgesTest::fewestAmount0To2000,
+            PayingEdgesTest::fewestThatCannotBe,
+            PayingEdgesTest::partAmount0To2000,
+            PayingEdgesTest::partOfNoSuchKind,
+            PayingEdgesTest::partThatCannotBe,
+            PayingEdgesTest::belowAmount0To2000,
+            PayingEdgesTest::belowNotGreater,
+            PayingEdgesTest::belowWithNothing,
+            PayingEdgesTest::gapsAmount0To2000,
+            PayingEdgesTest::gapsFrom1ToThisOne,
+            PayingEdgesTest::gapsAreMultiplesOfTheUnit,
+            PayingEdgesTest::gapsWithoutKinds,
+            PayingEdgesTest::unitWithoutKinds,
+            PayingEdgesTest::unitOfAllKinds,
+            PayingEdgesTest::lampWithoutProductOrKind,
+            PayingEdgesTest::lampWithStockGreaterThan0,
+            PayingEdgesTest::lampWithAKindThatIsAccepted,
+            PayingEdgesTest::lampWithThePriceOrMore,
+            PayingEdgesTest::lampOfTheLastProductAndKind);
         CHECK.end();
     }
 
@@ -98,6 +99,7 @@ public final class PayingEdgesTest {
         x.accept(1, false);
         CHECK.dueParts(x, 30, 0, 1);
         CHECK.due("below(2000), not accepted, but in the tube", x.below(2000), 30);
+        CHECK.due("gaps(40), not accepted, but in the tube", x.gaps(40), 3);
         x.take(1, 1);
         CHECK.dueNoWay(x, 30, 2);
         CHECK.due("below(2000) after take", x.below(2000), 0);
@@ -337,7 +339,10 @@ public final class PayingEdgesTest {
         CHECK.due("unit() of 4, 6", Machines.withTubes(new int[] {4, 6}, new int[2]).unit(), 2);
         CHECK.due("unit() of 12, 18, 30", Machines.withTubes(new int[] {12, 18, 30}, new int[3]).unit(), 6);
         CHECK.unchanged("unit() of 8 kinds", 10, Machines::full, x -> x.unit());
-        CHECK.unchanged("unit(), one not accepted", 5, Machines::inUse, x -> x.unit());
+        CHECK.unchanged("unit(), 100 not accepted", 5, Machines::inUse, x -> x.unit());
+        CoinMechanism y = Machines.inUse();
+        y.accept(2, false);
+        CHECK.due("unit(), 5 not accepted", y.unit(), 5);
         CoinMechanism x = Machines.withTubes(new int[] {480, 400, 320, 240, 160, 80, 40}, new int[7]);
         CHECK.due("unit() of 7 kinds", x.unit(), 40);
         x.addKind(36, 0);
@@ -412,9 +417,11 @@ public final class PayingEdgesTest {
             }
         }
         CoinMechanism x = selling(Machines.withTubes(new int[] {50, 15}, new int[] {0, 0}), 35, 1);
+        CHECK.insertAll(x, 1);
         x.accept(1, false);
-        CHECK.insertAll(x, 0);
-        CHECK.due("lamp(): the escrow does not pay", x.lamp(), true);
+        CHECK.due("lamp(): the 15 in the escrow does not pay", x.lamp(), true);
+        x.fill(1, 1);
+        CHECK.due("lamp(): the 15 in the tube does", x.lamp(), false);
         CHECK.unchanged("lamp()", true, Machines::small, y -> y.lamp());
         CHECK.unchanged("lamp()", false, Machines::inUse, y -> y.lamp());
         CHECK.unchanged("lamp()", false, Machines::full, y -> y.lamp());

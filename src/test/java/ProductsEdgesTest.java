@@ -6,21 +6,22 @@ public final class ProductsEdgesTest {
     private static final MachineCheck CHECK = new MachineCheck();
 
     public static void main(String[] args) {
-        limit1000AtFirst();
-        limit0To2000();
-        limitBelowTheCredit();
-        atMostTenProducts();
-        numberedInOrder();
-        priceOfANewProduct();
-        stockOfANewProduct();
-        firstNamedOfAddProduct();
-        setNoSuchProduct();
-        setPrice1To2000();
-        setStock0To99();
-        firstNamedOfSetProduct();
-        setOneProductAlone();
-        askForNoSuchProduct();
-        priceOrStock();
+        CHECK.run(
+            ProductsEdgesTest::limit1000AtFirst,
+            ProductsEdgesTest::limit0To2000,
+            ProductsEdgesTest::limitBelowTheCredit,
+            ProductsEdgesTest::atMostTenProducts,
+            ProductsEdgesTest::numberedInOrder,
+            ProductsEdgesTest::priceOfANewProduct,
+            ProductsEdgesTest::stockOfANewProduct,
+            ProductsEdgesTest::firstNamedOfAddProduct,
+            ProductsEdgesTest::setNoSuchProduct,
+            ProductsEdgesTest::setPrice1To2000,
+            ProductsEdgesTest::setStock0To99,
+            ProductsEdgesTest::firstNamedOfSetProduct,
+            ProductsEdgesTest::setOneProductAlone,
+            ProductsEdgesTest::askForNoSuchProduct,
+            ProductsEdgesTest::priceOrStock);
         CHECK.end();
     }
 

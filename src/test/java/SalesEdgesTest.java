@@ -5,36 +5,39 @@ public final class SalesEdgesTest {
     private static final MachineCheck CHECK = new MachineCheck();
 
     public static void main(String[] args) {
-        insertOfNoSuchKind();
-        insertWhatIsNotAccepted();
-        insertWith12Coins();
-        insertAboveTheLimit();
-        insertInTheEscrowAlone();
-        cancelWithNothing();
-        cancelWith12Coins();
-        buyNoSuchProduct();
-        buyWithStock0();
-        buyWithLessThanThePrice();
-        buyWithJustThePrice();
-        buyWithoutChange();
-        buyWithCreditAtTheLimit();
-        buyDropsIntoTheLastPlace();
-        buyDropsAFullEscrow();
-        buyPaysWithTheseCoins();
-        refundWhenNothingWasSold();
-        refundWhenTakenBack();
-        refundOfNoEarlierSale();
-        refundThatCannotBePaid();
-        refundOfThePriceThen();
-        refundFromTheTubesAlone();
-        refundToStock99();
-        refundOf2000();
-        creditOfNothingAndOfAll();
-        escrowOfNoSuchIndex();
-        escrowInOrder();
-        coinsOfNoSuchKind();
-        coinsWhat0To3();
-        coinsPaidLast();
+        CHECK.run(
+            SalesEdgesTest::insertOfNoSuchKind,
+            SalesEdgesTest::insertWhatIsNotAccepted,
+            SalesEdgesTest::insertWith12Coins,
+            SalesEdgesTest::insertAboveTheLimit,
+            SalesEdgesTest::insertInTheEscrowAlone,
+            SalesEdgesTest::cancelWithNothing,
+            SalesEdgesTest::cancelWith12Coins,
+            SalesEdgesTest::buyNoSuchProduct,
+            SalesEdgesTest::buyWithStock0,
+            SalesEdgesTest::buyWithLessThanThePrice,
+            SalesEdgesTest::buyWithJustThePrice,
+            SalesEdgesTest::buyWithoutChange,
+            SalesEdgesTest::buyThatFailsLeavesTheSaleBefore,
+            SalesEdgesTest::buyWithCreditAtTheLimit,
+            SalesEdgesTest::buyDropsIntoTheLastPlace,
+            SalesEdgesTest::buyDropsAFullEscrow,
+            SalesEdgesTest::buyPaysWithTheseCoins,
+            SalesEdgesTest::refundWhenNothingWasSold,
+            SalesEdgesTest::refundWhenTakenBack,
+            SalesEdgesTest::refundOfNoEarlierSale,
+            SalesEdgesTest::refundAfterEachOtherCall,
+            SalesEdgesTest::refundThatCannotBePaid,
+            SalesEdgesTest::refundOfThePriceThen,
+            SalesEdgesTest::refundFromTheTubesAlone,
+            SalesEdgesTest::refundToStock99,
+            SalesEdgesTest::refundOf2000,
+            SalesEdgesTest::creditOfNothingAndOfAll,
+            SalesEdgesTest::escrowOfNoSuchIndex,
+            SalesEdgesTest::escrowInOrder,
+            SalesEdgesTest::coinsOfNoSuchKind,
+            SalesEdgesTest::coinsWhat0To3,
+            SalesEdgesTest::coinsPaidLast);
         CHECK.end();
     }
 
@@ -267,6 +270,23 @@ public final class SalesEdgesTest {
         CHECK.dueCoins(x, 3, 0, 1, 5);
     }
 
+    private static void buyThatFailsLeavesTheSaleBefore() {
+        CHECK.at("13: otherwise nothing changes");
+        CHECK.unchanged("buy(1): sold out", 1, () -> after(x -> x.setProduct(1, 20, 0)), x -> x.buy(1));
+        CHECK.unchanged("buy(0), the one sold before: sold out", 1, () -> after(x -> x.setProduct(0, 35, 0)), x -> x.buy(0));
+        CHECK.unchanged("buy(1): 65 of 66", 2, () -> after(x -> x.setProduct(1, 66, 9)), x -> x.buy(1));
+        CHECK.unchanged("buy(0): nothing of 35", 2, () -> after(x -> x.cancel()), x -> x.buy(0));
+        CHECK.unchanged("buy(1): 44 is no multiple of 5", 3, () -> after(x -> x.setProduct(1, 21, 9)), x -> x.buy(1));
+        CHECK.unchanged("buy(0): 64 is no multiple of 5", 3, () -> after(x -> x.setProduct(0, 1, 9)), x -> x.buy(0));
+    }
+
+    /** inUse(), of which a sale can be taken back, after one call more. */
+    private static CoinMechanism after(MachineCheck.Ask ask) {
+        CoinMechanism x = Machines.inUse();
+        ask.of(x);
+        return x;
+    }
+
     /** 50 is in the escrow, and product 0 costs 35; tubes for 50, 10, 1 with so many coins. */
     private static CoinMechanism change15(int fifties, int tens, int ones) {
         CoinMechanism x = Machines.withTubes(new int[] {50, 10, 1}, new int[] {fifties, tens, ones});
@@ -385,10 +405,25 @@ public final class SalesEdgesTest {
         CHECK.dueEscrow(x, 0, 0, 0);
         CoinMechanism y = Machines.withTubes(new int[] {10, 30, 50}, new int[] {9, 0, 0});
         y.addProduct(50, 9);
+        y.accept(0, false);
         CHECK.insertAll(y, 1, 2);
         CHECK.due("buy(0): the 30 put in is fewer than three of 10", y.buy(0), 0);
         CHECK.dueCoins(y, 3, 0, 1, 0);
         CHECK.dueCoins(y, 1, 9, 0, 1);
+        CHECK.insertAll(y, 1, 1);
+        CHECK.due("buy(0): a kind that is not accepted pays", y.buy(0), 0);
+        CHECK.dueCoins(y, 3, 1, 0, 0);
+        // The tube of 10 is full when 10 falls, although the change makes room in it then.
+        CoinMechanism z = new CoinMechanism();
+        z.addKind(10, 2);
+        z.addKind(50, 9);
+        z.addProduct(50, 9);
+        z.fill(0, 2);
+        CHECK.insertAll(z, 1, 0);
+        CHECK.due("buy(0): dropped first, paid then", z.buy(0), 0);
+        CHECK.dueCoins(z, 1, 1, 1);
+        CHECK.dueCoins(z, 2, 1, 0);
+        CHECK.dueCoins(z, 3, 1, 0);
     }
 
     // ---- promise 14
@@ -446,6 +481,23 @@ public final class SalesEdgesTest {
         CHECK.dueProduct(x, 1, 2, 8);
         CHECK.dueProduct(x, 0, 3, 8);
         CHECK.dueAudit(x, 7, 0, 0, 2, 60, 0, 0, 7, 3, 3);
+    }
+
+    private static void refundAfterEachOtherCall() {
+        CHECK.at("14: takes back the latest sale, whatever was called since");
+        MachineCheck.Ask[] calls = {x -> x.addKind(1, 60), x -> x.fill(0, 1), x -> x.take(2, 1), x -> x.emptyBox(),
+            x -> x.accept(0, false), x -> x.setLimit(0), x -> x.addProduct(9, 9), x -> x.setProduct(0, 1, 4),
+            x -> x.setProduct(1, 1, 4), x -> x.insert(0), x -> x.cancel(), x -> x.buy(1) + x.buy(1) + x.cancel(),
+            x -> x.fewest(2000), x -> x.part(65, 0), x -> x.below(1), x -> x.gaps(9), x -> x.lamp(), x -> x.digest()};
+        for (int i = 0; i < calls.length; i++) {
+            CoinMechanism x = Machines.inUse();
+            x.setProduct(1, 2000, 1);
+            calls[i].of(x);
+            CHECK.due("refund() after call " + i, x.refund(), true);
+            CHECK.dueCoins(x, 3, 3, 0, 1, 0);
+            CHECK.due("product(0, true) after call " + i, x.product(0, true), 5);
+            CHECK.dueThrow("refund() again after call " + i, STATE, () -> x.refund());
+        }
     }
 
     /** A sale of 35, exact; then two of 10 and one of 5 are left in the tubes, credit 50. */
