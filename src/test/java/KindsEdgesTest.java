@@ -190,6 +190,8 @@ public final class KindsEdgesTest {
         }
         CHECK.due("coins(0, 2)", x.coins(0, 2), 38 * 12);
         CHECK.due("emptyBox()", x.emptyBox(), 38 * 12);
+        CHECK.due("coins(0, 2) then", x.coins(0, 2), 0);
+        CHECK.due("emptyBox() again", x.emptyBox(), 0);
         CoinMechanism y = new CoinMechanism();
         y.addKind(500, 0);
         y.addProduct(2000, 99);
@@ -200,6 +202,7 @@ public final class KindsEdgesTest {
         }
         CHECK.due("coins(0, 2)", y.coins(0, 2), 396);
         CHECK.due("emptyBox()", y.emptyBox(), 198_000);
+        CHECK.due("coins(0, 2) then", y.coins(0, 2), 0);
         CHECK.dueAudit(y, 198_000, 0, 0, 0, 0, 0, 198_000, 198_000, 99, 99);
     }
 
